@@ -60,7 +60,7 @@ public final class CampusNet {
             return REFUSED;
         }
         int number = plan.addBridge(priority);
-        tree.settle(false);
+        tree.settle();
         return number;
     }
 
@@ -72,7 +72,7 @@ public final class CampusNet {
             return REFUSED;
         }
         int number = plan.addWire(p, q, cost);
-        tree.settle(false);
+        tree.settle();
         return number;
     }
 
@@ -81,7 +81,7 @@ public final class CampusNet {
             return REFUSED;
         }
         int number = plan.addHost(p, subnet);
-        tree.settle(false);
+        tree.settle();
         return number;
     }
 
@@ -90,7 +90,7 @@ public final class CampusNet {
             return false;
         }
         plan.addRouter(p);
-        tree.settle(false);
+        tree.settle();
         return true;
     }
 
@@ -118,7 +118,7 @@ public final class CampusNet {
         int end = plan.wireEnds[wire];
         tree.dropMessage(end);
         tree.dropMessage(plan.farPlaces[end]);
-        tree.settle(true);
+        tree.settle();
         return true;
     }
 
@@ -383,7 +383,7 @@ public final class CampusNet {
         }
 
         int tagOutside(int p, int network) {
-            return isTrunk[p] && untagged[p] != network ? network : NONE;
+            return untagged[p] == network ? NONE : network;
         }
     }
 
@@ -436,18 +436,21 @@ public final class CampusNet {
             passNotices();
             sendMessages();
             takeMessages();
-            settle(true);
+            settle();
         }
 
-        /** Brings roots, roles and states up to what is plugged and held now. */
-        void settle(boolean givesNotices) {
+        /**
+         * Brings roots, roles and states up to what is plugged and held now. What is newly plugged
+         * only begins to listen, so that notices come of ticks and cuts alone.
+         */
+        void settle() {
             chooseRoots();
             int places = PORTS * plan.bridgeCount;
             for (int p = 0; p < places; p++) {
                 lookAtRole(p);
                 int before = states[p];
                 states[p] = stateNow(p);
-                if (givesNotices && isWorthNotice(before, states[p])) {
+                if (isWorthNotice(before, states[p])) {
                     hasNotice[p / PORTS] = true;
                 }
             }
