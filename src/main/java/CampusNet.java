@@ -382,6 +382,7 @@ public final class CampusNet {
             return isMember(p, network) ? network : NONE;
         }
 
+        /** The tag that a frame of a network has outside the port, whichever way it goes. */
         int tagOutside(int p, int network) {
             return untagged[p] == network ? NONE : network;
         }
@@ -698,7 +699,7 @@ public final class CampusNet {
             if (place == NONE) {
                 return 0;
             }
-            return carry(ROUTER, to, place, networks.untagged[place] == network ? NONE : network);
+            return carry(ROUTER, to, place, networks.tagOutside(place, network));
         }
 
         /** Bits of the addresses that the frame reached. */

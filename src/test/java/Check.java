@@ -16,23 +16,35 @@ final class Check {
     /**
      * Makes the calls of a run on a new object, each with the answer that is due. The first row has
      * the numbers of the constructor, the others are like "wire 0 4 1 = 0"; a row may hold several
-     * calls, with ";" between them. Where no answer stands it is not looked at.
+     * calls, with ";" between them. Where no answer stands it is not looked at. MIN and MAX are the
+     * least and the greatest int.
      */
     void run(String title, String limits, String... rows) {
-        int[] made = numbers(limits.split(" "), 0);
-        CampusNet net = new CampusNet(made[0], made[1], made[2]);
-        int number = 0;
+        CampusNet net = made(limits);
+        int count = 0;
         for (String row : rows) {
             for (String call : row.split(";")) {
-                number++;
+                count++;
                 String[] sides = call.split("=");
                 int got = answerOf(net, sides[0].trim());
                 if (sides.length > 1) {
-                    String label = title + ", call " + number + ": " + sides[0].trim();
-                    due(label, got, Integer.parseInt(sides[1].trim()));
+                    String label = title + ", call " + count + ": " + sides[0].trim();
+                    due(label, got, number(sides[1].trim()));
                 }
             }
         }
+    }
+
+    /** Each call is refused in a run of its own, and what comes after it goes as if it hadn't been. */
+    void refusals(String title, String before, String after, String... calls) {
+        for (String call : calls) {
+            run(title + ", " + call, "6 1 5", before, call, after);
+        }
+    }
+
+    static CampusNet made(String limits) {
+        int[] a = numbers(limits.split(" "), 0);
+        return new CampusNet(a[0], a[1], a[2]);
     }
 
     void end() {
@@ -45,12 +57,20 @@ final class Check {
     private static int[] numbers(String[] words, int first) {
         int[] numbers = new int[words.length - first];
         for (int i = first; i < words.length; i++) {
-            numbers[i - first] = Integer.parseInt(words[i]);
+            numbers[i - first] = number(words[i]);
         }
         return numbers;
     }
 
-    private static int answerOf(CampusNet net, String call) {
+    private static int number(String word) {
+        switch (word) {
+            case "MIN": return Integer.MIN_VALUE;
+            case "MAX": return Integer.MAX_VALUE;
+            default: return Integer.parseInt(word);
+        }
+    }
+
+    static int answerOf(CampusNet net, String call) {
         String[] words = call.split(" ");
         int[] a = numbers(words, 1);
         switch (words[0]) {

@@ -27,11 +27,7 @@ public final class TreeTest {
 
     private static void ticks(Check check) {
         check.run("9 tick", "6 1 5",
-                "tick 0 = 0; tick 1 = 1; tick 60 = 61; tick 61 = -1; tick -1 = -1",
-                "tick -2147483648 = -1; tick 2147483647 = -1; tick 0 = 61; tick 2 = 63");
-        check.run("9 refused ticks change nothing", "6 1 5",
-                "bridge 0; bridge 1; wire 0 4 1; tick 61 = -1; tick -1 = -1; held 0 0 = -1; state 0 = 1",
-                "tick 0 = 0; held 0 0 = -1; tick 1 = 1; held 0 0 = 9; state 0 = 2");
+                "tick 0 = 0; tick 1 = 1; tick 60 = 61; tick 0 = 61; tick 2 = 63");
     }
 
     private static void messagesHopOncePerTick(Check check) {
@@ -45,7 +41,6 @@ public final class TreeTest {
                 "bridge 3; bridge 2; bridge 1; bridge 0; wire 0 4 2; wire 5 8 3; wire 9 12 9; tick 1",
                 "root 3 = 6144; root 2 = 6162; root 1 = 20486; root 0 = 34820; tick 1",
                 "root 1 = 6168; root 0 = 20490; tick 1; root 0 = 6172; role 0 = 1; role 4 = 2");
-        check.run("12 no bridge", "6 1 5", "root 0 = -1; bridge 0; root -1 = -1; root 1 = -1; root 0 = 0");
     }
 
     private static void leastOffer(Check check) {
@@ -76,9 +71,6 @@ public final class TreeTest {
         check.run("10 by number where the priority is one", "6 1 5",
                 "bridge 4; bridge 4; bridge 4; wire 0 4 5; wire 1 8 5; wire 5 9 9; tick 3",
                 "root 1 = 65547; role 5 = 2; role 9 = 3");
-        check.run("10 wrong places", "6 1 5",
-                "role -1 = -1; role 0 = -1; bridge 0; role 0 = 0; role 3 = 0; role 4 = -1; role -1 = -1",
-                "role 24 = -1; role 2147483647 = -1; role -2147483648 = -1");
     }
 
     private static void rolesOfPlugs(Check check) {
@@ -123,16 +115,11 @@ public final class TreeTest {
     }
 
     private static void states(Check check) {
-        check.run("11 wrong places", "6 1 5",
-                "state 0 = -1; bridge 0; state 0 = 0; state 3 = 0; state 4 = -1; state -1 = -1; state 24 = -1");
         check.run("11 delay 2", "6 2 5",
                 "bridge 0; tick 7; state 0 = 0; host 0 0; router 1; wire 2 3 1; state 0 = 1; state 1 = 1",
                 "state 2 = 1; state 3 = 1; tick 1; state 0 = 1; state 2 = 1; state 3 = 0; tick 1",
                 "state 0 = 2; state 1 = 2; state 2 = 2; tick 1; state 0 = 2; tick 1; state 0 = 3",
                 "state 1 = 3; state 2 = 3; state 3 = 0; tick 60; state 0 = 3; state 3 = 0");
-        check.run("11 a refused call leaves it", "6 2 5",
-                "bridge 0; host 0 0; tick 3; state 0 = 2; host 0 0 = -1; router 0 = 0; state 0 = 2; tick 1",
-                "state 0 = 3; wire 0 1 1 = -1; state 0 = 3");
     }
 
     private static void sinceIsKeptOrNot(Check check) {
@@ -226,8 +213,6 @@ public final class TreeTest {
                 "bridge 1; bridge 2; bridge 3; wire 3 6 4; wire 5 8 1; host 0 0; held 6 0 = -1; tick 2",
                 "held 6 0 = 8; held 6 1 = 0; held 6 2 = 8; held 6 3 = 3; held 6 4 = 0; held 6 5 = 0",
                 "held 8 0 = 8; held 8 1 = 4; held 8 2 = 17; held 8 3 = 1; held 8 4 = 1; held 8 5 = 0; tick 1",
-                "held 6 5 = 1; held 8 5 = 0; tick 1; held 8 5 = 1; held 6 -1 = -1; held 6 6 = -1",
-                "held 6 2147483647 = -1; held 6 -2147483648 = -1; held -1 0 = -1; held 12 0 = -1; held 24 0 = -1",
-                "held 0 0 = -1; held 1 0 = -1; held 2147483647 0 = -1");
+                "held 6 5 = 1; held 8 5 = 0; tick 1; held 8 5 = 1");
     }
 }
