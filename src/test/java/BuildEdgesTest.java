@@ -203,10 +203,13 @@ public final class BuildEdgesTest {
                 "access 0 -1 = 0", "access 0 4 = 0", "access 1 -1 = 0", "access 1 4 = 0", "access 0 MIN = 0",
                 "access 1 MAX = 0");
         check.run("6 the least and the greatest network", "6 1 5", pair,
-                "access 1 0 = 1; send 1 0 = 0; learned 0 0 1 = 1; access 1 3 = 1; send 1 0 = 1; learned 0 3 1 = 1");
-        check.run("6 the last place", "6 1 5", SIX, "host 23 0; host 22 0; tick 30; access 23 2 = 1; send 1 0 = 0");
+                "access 1 0 = 1; send 1 0 = 0; learned 0 0 1 = 1; access 1 3 = 1; send 1 0 = 1",
+                "learned 0 3 1 = 1");
+        check.run("6 the last place", "6 1 5", SIX,
+                "host 23 0; host 22 0; tick 30; access 23 2 = 1; send 1 0 = 0");
         check.run("6 a port that is plugged to nothing", "6 1 5",
-                "bridge 0; access 0 2 = 1; role 0 = 0; host 0 0; host 1 0; tick 30; send 0 -1 = 0; learned 0 2 0 = 0");
+                "bridge 0; access 0 2 = 1; role 0 = 0; host 0 0; host 1 0; tick 30; send 0 -1 = 0",
+                "learned 0 2 0 = 0");
         check.run("6 the same once more", "6 1 5", pair, "access 1 3 = 1; access 1 3 = 1", asBefore);
     }
 
@@ -223,37 +226,47 @@ public final class BuildEdgesTest {
                 "trunk 0 0 -1 = 0", "trunk 1 0 -1 = 0", "trunk 0 0 16 = 0", "trunk 1 0 16 = 0",
                 "trunk 1 0 MIN = 0", "trunk 1 0 MAX = 0");
         check.run("7 the least and the greatest native network", "6 1 5", pair,
-                "trunk 1 0 15 = 1; send 1 0 = 0; learned 0 0 1 = 1; trunk 1 3 15 = 1; send 1 0 = 0; learned 0 3 1 = 1");
+                "trunk 1 0 15 = 1; send 1 0 = 0; learned 0 0 1 = 1; trunk 1 3 15 = 1; send 1 0 = 0",
+                "learned 0 3 1 = 1");
         check.run("7 no members", "6 1 5", pair,
                 "trunk 1 2 0 = 1; send 0 1 = 0; crossings = 0; send 1 0 = 0; learned 0 2 1 = -1; role 1 = 2");
         check.run("7 all members", "6 1 5", pair, "trunk 1 2 15 = 1", asBefore);
         check.run("7 native isn't a member", "6 1 5", pair,
                 "trunk 1 2 11 = 1; send 0 1 = 0; crossings = 0; send 1 0 = 0; learned 0 2 1 = -1");
-        check.run("7 the last place", "6 1 5", SIX, "host 23 0; host 22 0; tick 30; trunk 23 1 15 = 1; send 1 0 = 0");
+        check.run("7 the last place", "6 1 5", SIX,
+                "host 23 0; host 22 0; tick 30; trunk 23 1 15 = 1; send 1 0 = 0");
         check.run("7 a port that is plugged to nothing", "6 1 5",
-                "bridge 0; trunk 0 2 15 = 1; role 0 = 0; host 0 0; tick 30; send 0 -1 = 0; learned 0 2 0 = 0");
+                "bridge 0; trunk 0 2 15 = 1; role 0 = 0; host 0 0; tick 30; send 0 -1 = 0",
+                "learned 0 2 0 = 0");
         check.run("7 the same once more", "6 1 5", pair, "trunk 1 2 4 = 1; trunk 1 2 4 = 1", asBefore);
     }
 
     private static void cuts(Check check) {
         check.run("8 its ports hold no messages then", "6 1 5",
-                "bridge 0; bridge 1; wire 0 4 1; wire 1 5 1; tick 1; cut 0 1 = 1; held 0 0 = -1; held 4 0 = -1",
+                "bridge 0; bridge 1; wire 0 4 1; wire 1 5 1; tick 1; cut 0 1 = 1; held 0 0 = -1",
+                "held 4 0 = -1",
                 "held 1 0 = 9; held 5 0 = 0");
         check.run("8 nor when it is made whole", "6 1 5",
                 "bridge 0; bridge 1; wire 0 4 1; tick 1; cut 0 1; cut 0 0 = 1; held 0 0 = -1; held 4 0 = -1",
                 "root 1 = 18432; role 4 = 2; tick 1; held 4 0 = 0");
         check.run("8 no message goes over a cut wire", "6 1 5",
-                "bridge 0; bridge 1; wire 0 4 1; cut 0 1 = 1; tick 3; held 0 0 = -1; held 4 0 = -1; root 1 = 18432");
+                "bridge 0; bridge 1; wire 0 4 1; cut 0 1 = 1; tick 3; held 0 0 = -1; held 4 0 = -1",
+                "root 1 = 18432");
         check.run("8 before the first tick", "6 1 5",
-                "bridge 0; wire 0 1 1; cut 0 1 = 1; role 0 = 0; state 0 = 0; cut 0 0 = 1; role 0 = 2; state 0 = 1");
+                "bridge 0; wire 0 1 1; cut 0 1 = 1; role 0 = 0; state 0 = 0; cut 0 0 = 1; role 0 = 2",
+                "state 0 = 1");
         check.run("8 the last of ten", "6 1 5", SIX,
                 "wire 0 1 1; wire 2 3 1; wire 4 5 1; wire 6 7 1; wire 8 9 1; wire 10 11 1; wire 12 13 1",
-                "wire 14 15 1; wire 16 17 1; wire 18 19 1 = 9; cut 9 1 = 1; role 18 = 0; role 19 = 0; role 16 = 2");
+                "wire 14 15 1; wire 16 17 1; wire 18 19 1 = 9; cut 9 1 = 1; role 18 = 0; role 19 = 0",
+                "role 16 = 2");
         check.run("8 a wire within one bridge", "6 1 5",
-                "bridge 0; wire 0 3 1; tick 5; role 3 = 3; held 3 3 = 0; cut 0 1 = 1; held 3 3 = -1; role 0 = 0; role 3 = 0");
+                "bridge 0; wire 0 3 1; tick 5; role 3 = 3; held 3 3 = 0; cut 0 1 = 1; held 3 3 = -1",
+                "role 0 = 0; role 3 = 0");
         check.run("8 what was learned stays", "6 1 40",
-                "bridge 0; bridge 1; wire 0 4 1; host 1 0; host 5 0; tick 30; send 0 1 = 2; learned 1 0 0 = 0",
-                "cut 0 1 = 1; learned 1 0 0 = 0; entries 1 = 1; cut 0 0 = 1; learned 1 0 0 = 0; entries 1 = 1");
+                "bridge 0; bridge 1; wire 0 4 1; host 1 0; host 5 0; tick 30; send 0 1 = 2",
+                "learned 1 0 0 = 0",
+                "cut 0 1 = 1; learned 1 0 0 = 0; entries 1 = 1; cut 0 0 = 1; learned 1 0 0 = 0",
+                "entries 1 = 1");
     }
 
     private static void refusedCuts(Check check) {
@@ -261,8 +274,10 @@ public final class BuildEdgesTest {
         // A port that lost its message or its state would tell.
         String asBefore = "held 0 0 = 9; held 0 4 = 1; held 4 0 = 0; role 4 = 1; state 0 = 3; state 4 = 3; role 1 = 0";
         check.refusals("8 there is none", wired, asBefore,
-                "cut -1 1 = 0", "cut 2 1 = 0", "cut 9 1 = 0", "cut 10 1 = 0", "cut MIN 1 = 0", "cut MAX 1 = 0",
-                "cut -1 0 = 0", "cut 2 0 = 0", "cut 9 0 = 0", "cut 10 0 = 0", "cut MIN 0 = 0", "cut MAX 0 = 0");
+                "cut -1 1 = 0", "cut 2 1 = 0", "cut 9 1 = 0", "cut 10 1 = 0", "cut MIN 1 = 0",
+                "cut MAX 1 = 0",
+                "cut -1 0 = 0", "cut 2 0 = 0", "cut 9 0 = 0", "cut 10 0 = 0", "cut MIN 0 = 0",
+                "cut MAX 0 = 0");
         check.refusals("8 it is that already", wired, asBefore, "cut 0 0 = 0", "cut 1 1 = 0");
         check.run("8 it was made whole already", "6 1 5", wired,
                 "cut 1 0 = 1; tick 1; held 5 0 = 0; cut 1 0 = 0; held 5 0 = 0; state 1 = 2; role 5 = 3");

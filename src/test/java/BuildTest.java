@@ -34,13 +34,15 @@ public final class BuildTest {
 
     private static void hosts(Check check) {
         check.run("4 numbers", "6 1 5",
-                "bridge 0; bridge 0; host 3 3 = 0; role 3 = 2; state 3 = 1; host 4 0 = 1; host 0 2 = 2; role 1 = 0",
+                "bridge 0; bridge 0; host 3 3 = 0; role 3 = 2; state 3 = 1; host 4 0 = 1; host 0 2 = 2",
+                "role 1 = 0",
                 "tick 2; send 0 -1 = 4; send 1 -1 = 0; send 2 -1 = 1");
     }
 
     private static void routers(Check check) {
         check.run("5 router", "6 1 5",
-                "bridge 0; host 0 0; send 0 6 = -1; router 3 = 1; role 3 = 2; state 3 = 1; send 0 6 = 0; tick 2",
+                "bridge 0; host 0 0; send 0 6 = -1; router 3 = 1; role 3 = 2; state 3 = 1; send 0 6 = 0",
+                "tick 2",
                 "state 3 = 3; send 0 6 = 64; send 0 -1 = 64");
     }
 
@@ -82,7 +84,8 @@ public final class BuildTest {
 
     private static void cuts(Check check) {
         check.run("8 cut and whole", "6 1 5",
-                "bridge 0; bridge 1; wire 0 4 1; role 0 = 2; cut 0 1 = 1; role 0 = 0; role 4 = 0; tick 3; role 0 = 0",
+                "bridge 0; bridge 1; wire 0 4 1; role 0 = 2; cut 0 1 = 1; role 0 = 0; role 4 = 0; tick 3",
+                "role 0 = 0",
                 "cut 0 0 = 1; role 0 = 2; role 4 = 2; state 0 = 1");
         check.run("8 messages go", "6 1 5",
                 "bridge 0; bridge 1; wire 0 4 1; wire 1 5 1; tick 1; held 0 0 = 9; held 4 0 = 0",

@@ -29,7 +29,8 @@ public final class FrameTest {
 
     private static void learnedPlaces(Check check) {
         check.run("14 places", "6 1 40",
-                "bridge 0; bridge 1; wire 3 6 1; host 1 0; host 5 0; tick 30; learned 0 0 0 = -1; send 0 1 = 2",
+                "bridge 0; bridge 1; wire 3 6 1; host 1 0; host 5 0; tick 30; learned 0 0 0 = -1",
+                "send 0 1 = 2",
                 "learned 0 0 0 = 1; learned 1 0 0 = 2; learned 0 0 1 = -1; send 1 0 = 1; learned 0 0 1 = 3",
                 "learned 1 0 1 = 1; learned 0 1 0 = -1; learned 0 0 5 = -1; learned 0 0 6 = -1");
         check.run("14 the newer place instead of the older", "6 1 40",
@@ -40,15 +41,18 @@ public final class FrameTest {
 
     private static void learningByState(Check check) {
         check.run("14 16 listening, learning, forwarding", "6 2 40",
-                "bridge 0; host 0 0; host 1 0; send 0 1 = 0; entries 0 = 0; tick 1; state 0 = 1; send 0 1 = 0",
-                "entries 0 = 0; tick 1; state 0 = 2; send 0 1 = 0; entries 0 = 1; learned 0 0 0 = 0; crossings = 0",
+                "bridge 0; host 0 0; host 1 0; send 0 1 = 0; entries 0 = 0; tick 1; state 0 = 1",
+                "send 0 1 = 0",
+                "entries 0 = 0; tick 1; state 0 = 2; send 0 1 = 0; entries 0 = 1; learned 0 0 0 = 0",
+                "crossings = 0",
                 "tick 2; state 0 = 3; send 0 1 = 2; crossings = 1",
                 "tick 30; host 2 0; tick 3; state 2 = 2; send 2 -1 = 0; crossings = 0; learned 0 0 2 = 2");
         check.run("14 16 nothing is learned at a blocked port", "6 1 40",
                 "bridge 0; bridge 1; wire 0 4 1; wire 1 5 1; host 2 0; tick 30; state 5 = 0; state 1 = 3",
                 "send 0 -1 = 0; crossings = 2; learned 1 0 0 = 0; entries 1 = 1");
         check.run("14 16 a dropped network is not learned", "6 1 40",
-                "bridge 0; host 0 0; trunk 0 2 11; host 1 0; tick 30; send 0 -1 = 0; entries 0 = 0; trunk 0 2 4",
+                "bridge 0; host 0 0; trunk 0 2 11; host 1 0; tick 30; send 0 -1 = 0; entries 0 = 0",
+                "trunk 0 2 4",
                 "send 0 -1 = 0; entries 0 = 1; learned 0 2 0 = 0");
     }
 
@@ -56,7 +60,8 @@ public final class FrameTest {
         check.run("15 entries", "6 1 40",
                 "bridge 0; entries 0 = 0",
                 "host 0 0; host 1 0; tick 30; send 0 -1; send 0 -1; entries 0 = 1; send 1 0; entries 0 = 2",
-                "access 0 1; send 0 -1; entries 0 = 3; access 0 2; send 0 -1; entries 0 = 4; access 0 3; send 0 -1",
+                "access 0 1; send 0 -1; entries 0 = 3; access 0 2; send 0 -1; entries 0 = 4; access 0 3",
+                "send 0 -1",
                 "entries 0 = 5; access 0 0; send 0 -1; entries 0 = 5; bridge 0; entries 1 = 0");
         check.run("15 the router's in each network", "6 1 40", ROUTED,
                 "ask 0 1 0 = 8; learned 0 0 6 = 0; learned 0 1 6 = 0; learned 1 1 6 = 0; learned 1 0 6 = -1",
@@ -79,7 +84,8 @@ public final class FrameTest {
                 "bridge 0; host 0 0; host 1 0; tick 30; host 2 0; tick 2; state 2 = 2; send 0 -1 = 2",
                 "crossings = 1; tick 1; send 0 -1 = 2; tick 1; state 2 = 3; send 0 -1 = 6; crossings = 2");
         check.run("16 learned at a port that is closed", "6 2 40",
-                "bridge 0; bridge 1; wire 0 4 1; host 1 0; host 2 0; host 5 0; tick 40; send 2 -1 = 3; send 0 2 = 4",
+                "bridge 0; bridge 1; wire 0 4 1; host 1 0; host 2 0; host 5 0; tick 40; send 2 -1 = 3",
+                "send 0 2 = 4",
                 "cut 0 1; send 0 2 = 0; crossings = 0; send 1 -1 = 1; crossings = 1");
         check.run("16 learned at a port that lost the network", "6 2 40",
                 "bridge 0; host 0 0; host 1 0; host 2 0; tick 40; send 1 -1 = 5; access 1 3; send 0 1 = 0",
@@ -92,14 +98,19 @@ public final class FrameTest {
                 "access 1 2; access 5 2; trunk 0 0 15; trunk 4 0 15; send 0 1 = 2; learned 1 2 0 = 0",
                 "access 5 1; send 0 1 = 0; crossings = 1; access 5 0; send 0 1 = 0");
         check.run("16 a tag is dropped at an access port", "6 1 40", pair,
-                "access 1 2; access 5 2; trunk 0 0 15; access 4 2; send 0 1 = 0; crossings = 1; entries 1 = 0",
-                "trunk 0 2 15; send 0 1 = 2; learned 1 2 0 = 0; learned 1 0 0 = -1; trunk 0 0 15; trunk 4 2 4",
+                "access 1 2; access 5 2; trunk 0 0 15; access 4 2; send 0 1 = 0; crossings = 1",
+                "entries 1 = 0",
+                "trunk 0 2 15; send 0 1 = 2; learned 1 2 0 = 0; learned 1 0 0 = -1; trunk 0 0 15",
+                "trunk 4 2 4",
                 "send 0 1 = 2; access 4 2; send 0 1 = 0; crossings = 1");
         check.run("16 no tag takes the native network", "6 1 40", pair,
-                "access 1 2; access 5 3; trunk 0 2 4; trunk 4 3 8; send 0 1 = 2; learned 1 3 0 = 0; send 1 0 = 1",
-                "learned 0 2 1 = 0; trunk 4 3 7; send 0 1 = 0; crossings = 1; learned 1 2 0 = -1; entries 1 = 2");
+                "access 1 2; access 5 3; trunk 0 2 4; trunk 4 3 8; send 0 1 = 2; learned 1 3 0 = 0",
+                "send 1 0 = 1",
+                "learned 0 2 1 = 0; trunk 4 3 7; send 0 1 = 0; crossings = 1; learned 1 2 0 = -1",
+                "entries 1 = 2");
         check.run("16 a tag that isn't a member", "6 1 40", pair,
-                "access 1 2; access 5 2; trunk 0 0 15; trunk 4 2 11; send 0 1 = 0; crossings = 1; entries 1 = 0");
+                "access 1 2; access 5 2; trunk 0 0 15; trunk 4 2 11; send 0 1 = 0; crossings = 1",
+                "entries 1 = 0");
         check.run("16 one way alone", "6 1 40", pair,
                 "access 1 1; access 5 1; trunk 0 0 2; trunk 4 1 2; send 0 1 = 2; send 1 0 = 0; crossings = 1",
                 "learned 0 1 1 = -1; learned 0 0 1 = -1; ask 0 1 5 = 1; answer = 0; crossings = 3");
@@ -118,7 +129,8 @@ public final class FrameTest {
     /** Each frame goes round the ring both ways, past each host, till it has gone out sixty times. */
     private static void storm(Check check) {
         check.run("16 19 sixty", "12 1 40", RING,
-                "host 2 0; host 6 0; host 10 0; tick 2; state 0 = 3; state 1 = 3; send 0 -1 = 7; crossings = 60",
+                "host 2 0; host 6 0; host 10 0; tick 2; state 0 = 3; state 1 = 3; send 0 -1 = 7",
+                "crossings = 60",
                 "tick 30; send 0 -1 = 6; crossings = 8");
         check.run("17 19 sixty of one frame, not of one ask", "12 1 40", RING,
                 "host 2 0; host 14 0; tick 2; ask 0 1 9 = 1; crossings = 61; answer = 0");
@@ -148,7 +160,8 @@ public final class FrameTest {
                 "trunk 2 3 12; ask 0 1 101 = 8; trunk 2 2 12; ask 0 1 102 = 8; answer = 3163; trunk 2 0 12",
                 "ask 0 1 103 = 8; trunk 2 0 8; ask 0 1 104 = 3; trunk 2 0 4; ask 0 1 104 = 0; answer = 3194");
         check.run("17 the first frame of each half goes to all", "6 1 40",
-                "bridge 0; host 0 0; host 1 1; host 2 1; access 1 1; access 2 1; router 3; trunk 3 0 15; tick 30",
+                "bridge 0; host 0 0; host 1 1; host 2 1; access 1 1; access 2 1; router 3; trunk 3 0 15",
+                "tick 30",
                 "ask 0 1 1 = 8; crossings = 9; ask 0 1 1 = 8; crossings = 9; ask 1 0 1 = 8; crossings = 9");
         check.run("17 all in the untagged network", "6 1 40",
                 "bridge 0; host 0 0; host 1 1; router 2; tick 30; ask 0 1 1 = 3; crossings = 4; answer = 0");
@@ -172,9 +185,11 @@ public final class FrameTest {
 
     private static void crossingsOfFrames(Check check) {
         check.run("19 of the latest", "6 1 40",
-                "crossings = 0; bridge 0; host 0 0; host 1 0; host 2 0; tick 30; crossings = 0; send 0 -1 = 6",
+                "crossings = 0; bridge 0; host 0 0; host 1 0; host 2 0; tick 30; crossings = 0",
+                "send 0 -1 = 6",
                 "crossings = 2; crossings = 2; send 1 0 = 1",
-                "crossings = 1; ask 0 1 0 = 4; crossings = 5; tick 1; cut 0 1 = 0; crossings = 5; send 0 0 = 0",
+                "crossings = 1; ask 0 1 0 = 4; crossings = 5; tick 1; cut 0 1 = 0; crossings = 5",
+                "send 0 0 = 0",
                 "crossings = 0");
     }
 }

@@ -89,14 +89,17 @@ public final class TreeTest {
                 "role 6 = 3; held 6 0 = 0; held 6 1 = 1; held 6 2 = 9; held 6 3 = 1");
         check.run("10 its own stale message makes a bridge its own neighbour", "6 1 5",
                 "bridge 0; bridge 1; wire 0 4 1; wire 5 6 2; tick 30; cut 0 1; root 1 = 6; role 6 = 1",
-                "role 5 = 2; tick 1; root 1 = 10; tick 1; root 1 = 14; tick 1; root 1 = 18; tick 1; held 6 4 = 5",
-                "root 1 = 22; tick 1 = 35; root 1 = 18433; role 5 = 2; role 6 = 3; held 5 0 = 9; held 5 3 = 2; held 5 4 = 0",
+                "role 5 = 2; tick 1; root 1 = 10; tick 1; root 1 = 14; tick 1; root 1 = 18; tick 1",
+                "held 6 4 = 5",
+                "root 1 = 22; tick 1 = 35; root 1 = 18433; role 5 = 2; role 6 = 3; held 5 0 = 9",
+                "held 5 3 = 2; held 5 4 = 0",
                 "tick 6 = 41; root 1 = 18433; tick 60; root 1 = 18432");
     }
 
     private static void agesAndLoss(Check check) {
         check.run("9 13 ages", "6 1 5", ROW,
-                "held 4 4 = 0; held 8 4 = 1; held 0 4 = -1; held 5 4 = -1; tick 1; held 4 4 = 0; held 8 4 = 1");
+                "held 4 4 = 0; held 8 4 = 1; held 0 4 = -1; held 5 4 = -1; tick 1; held 4 4 = 0",
+                "held 8 4 = 1");
         check.run("9 13 a message that is not renewed", "8 1 5",
                 "bridge 0; bridge 1; wire 0 4 1; tick 1; held 0 4 = 0; tick 6; held 0 4 = 6; tick 1",
                 "held 0 4 = 7; held 0 0 = 9; tick 1; held 0 4 = -1; held 0 0 = -1; held 4 4 = 0");
@@ -125,10 +128,13 @@ public final class TreeTest {
     private static void sinceIsKeptOrNot(Check check) {
         // Either way the port's time goes on, for its role was 1 or 2 all along.
         check.run("11 from designated to root port", "6 2 5",
-                "bridge 1; bridge 0; wire 0 4 1; role 0 = 2; tick 3; role 0 = 1; state 0 = 2; tick 1; state 0 = 3");
+                "bridge 1; bridge 0; wire 0 4 1; role 0 = 2; tick 3; role 0 = 1; state 0 = 2; tick 1",
+                "state 0 = 3");
         check.run("11 from root port to designated", "6 2 5",
-                "bridge 1; bridge 0; bridge 2; wire 0 4 1; wire 1 8 1; tick 30; role 8 = 1; state 8 = 3; bridge 0",
-                "wire 9 12 1; tick 1; role 8 = 1; tick 1; state 8 = 3; cut 0 1; tick 2; role 8 = 2; role 9 = 1",
+                "bridge 1; bridge 0; bridge 2; wire 0 4 1; wire 1 8 1; tick 30; role 8 = 1; state 8 = 3",
+                "bridge 0",
+                "wire 9 12 1; tick 1; role 8 = 1; tick 1; state 8 = 3; cut 0 1; tick 2; role 8 = 2",
+                "role 9 = 1",
                 "state 8 = 3; root 0 = 6148; state 9 = 3");
         check.run("11 a blocked port starts anew", "6 2 5",
                 "bridge 0; bridge 1; wire 0 4 1; wire 1 5 1; tick 30; role 5 = 3; state 5 = 0; cut 0 1",
@@ -149,7 +155,8 @@ public final class TreeTest {
                 "bridge 0; host 0 0; tick 6; state 0 = 3; root 0 = 0; tick 1 = 7; root 0 = 1; tick 14 = 21",
                 "root 0 = 1; tick 1 = 22; root 0 = 0");
         check.run("12 learning alone is no notice", "6 2 5",
-                "bridge 0; host 0 0; tick 3; state 0 = 2; root 0 = 0; tick 1; state 0 = 3; root 0 = 0; tick 1",
+                "bridge 0; host 0 0; tick 3; state 0 = 2; root 0 = 0; tick 1; state 0 = 3; root 0 = 0",
+                "tick 1",
                 "root 0 = 1");
         check.run("12 a new port is no notice till it forwards", "6 1 5",
                 "bridge 0; tick 5; host 0 0; wire 1 2 1; router 3; tick 1; root 0 = 0; tick 1; root 0 = 0");
@@ -157,16 +164,19 @@ public final class TreeTest {
 
     private static void noticeOfCut(Check check) {
         check.run("12 cut while listening", "6 2 5",
-                "bridge 0; bridge 1; wire 0 4 1; tick 1; state 0 = 1; cut 0 1; tick 1; root 0 = 0; tick 1; root 0 = 0");
+                "bridge 0; bridge 1; wire 0 4 1; tick 1; state 0 = 1; cut 0 1; tick 1; root 0 = 0; tick 1",
+                "root 0 = 0");
         check.run("12 cut while learning", "6 2 5",
-                "bridge 0; bridge 1; wire 0 4 1; tick 2; state 0 = 2; cut 0 1; root 0 = 0; tick 1 = 3; root 0 = 1",
+                "bridge 0; bridge 1; wire 0 4 1; tick 2; state 0 = 2; cut 0 1; root 0 = 0; tick 1 = 3",
+                "root 0 = 1",
                 "root 1 = 18433; tick 7 = 10; root 0 = 1; tick 1 = 11; root 0 = 0; root 1 = 18432");
         check.run("12 cut while forwarding", "6 1 5", ROW,
                 "cut 1 1; root 1 = 2; tick 1 = 41; root 0 = 0; root 1 = 2; root 2 = 36865; tick 1 = 42",
                 "root 0 = 1; root 1 = 3; tick 6 = 48; root 0 = 1; root 2 = 36864; tick 1 = 49; root 0 = 0",
                 "root 1 = 2");
         check.run("12 made whole is no notice till it forwards", "6 1 5", ROW,
-                "cut 0 1; tick 30; root 0 = 0; cut 0 0; tick 1; root 0 = 0; tick 1; root 0 = 0; state 0 = 3; tick 1",
+                "cut 0 1; tick 30; root 0 = 0; cut 0 0; tick 1; root 0 = 0; tick 1; root 0 = 0",
+                "state 0 = 3; tick 1",
                 "root 0 = 1");
         // What two ports held all along becomes better than what is left after the cut.
         check.run("8 10 blocked by a cut elsewhere", "6 1 5",
@@ -182,11 +192,14 @@ public final class TreeTest {
                 "root 0 = 1; root 1 = 3; root 2 = 5; tick 1 = 52; root 0 = 0; root 1 = 2; root 2 = 5",
                 "tick 1 = 53; root 2 = 4");
         check.run("9 12 one that loses its own gets another", "6 1 5", ROW,
-                "host 6 0; host 10 0; tick 3 = 43; root 0 = 0; tick 1 = 44; root 0 = 1; tick 6 = 50; root 0 = 1",
+                "host 6 0; host 10 0; tick 3 = 43; root 0 = 0; tick 1 = 44; root 0 = 1; tick 6 = 50",
+                "root 0 = 1",
                 "tick 1 = 51; root 0 = 1; tick 1 = 52; root 0 = 0");
         check.run("9 12 one that loses its own gets another, upwards", "6 1 5",
-                "bridge 2; bridge 1; bridge 0; wire 0 4 1; wire 5 8 1; tick 40; root 2 = 4096; host 2 0; host 6 0",
-                "tick 3 = 43; root 2 = 4096; tick 1 = 44; root 2 = 4097; tick 7 = 51; root 2 = 4097; tick 1 = 52",
+                "bridge 2; bridge 1; bridge 0; wire 0 4 1; wire 5 8 1; tick 40; root 2 = 4096; host 2 0",
+                "host 6 0",
+                "tick 3 = 43; root 2 = 4096; tick 1 = 44; root 2 = 4097; tick 7 = 51; root 2 = 4097",
+                "tick 1 = 52",
                 "root 2 = 4096");
         check.run("9 12 upwards a bridge a tick", "6 1 5",
                 "bridge 2; bridge 1; bridge 0; wire 0 4 1; wire 5 8 1; tick 40; host 2 0; tick 4 = 44",
@@ -200,7 +213,8 @@ public final class TreeTest {
                 "entries 0 = 1; learned 0 0 1 = 1; tick 1 = 58; entries 0 = 1; tick 1 = 59; entries 0 = 0",
                 "send 0 1 = 6; tick 2 = 61; entries 0 = 1; tick 1 = 62; entries 0 = 0");
         check.run("9 memory of one that isn't", "6 1 7",
-                "bridge 0; host 0 0; host 1 0; tick 40; send 0 -1 = 2; tick 3; send 1 -1 = 1; tick 3; entries 0 = 2",
+                "bridge 0; host 0 0; host 1 0; tick 40; send 0 -1 = 2; tick 3; send 1 -1 = 1; tick 3",
+                "entries 0 = 2",
                 "tick 1; entries 0 = 1; learned 0 0 0 = -1; learned 0 0 1 = 1; tick 2; entries 0 = 1; tick 1",
                 "entries 0 = 0");
         check.run("9 a frame makes it new", "6 1 7",
