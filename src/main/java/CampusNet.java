@@ -2,7 +2,7 @@ import java.util.Arrays;
 
 /**
  * Bridges joined by wires that agree on a spanning tree by messages, learn where addresses are,
- * keep virtual networks apart, and carry the frames of hosts and of a router between them.
+ * keep virtual networks apart, and carry the frames of hosts and of a router between these networks.
  *
  * <p>All rows are made by the constructor and used again by every call, so that no call makes
  * an object.
